@@ -548,7 +548,11 @@ public final class BitBlocks {
             }
             int mark = bits.end;
             bits.put(number, block.width);
-            putRecord(form);
+            if (form == null) {
+                putPlain();
+            } else {
+                putByForm(form);
+            }
             if (!hasRoomToLeave(block.width, nest.depth - 1)) {
                 bits.cutTo(mark);
                 return -5;
@@ -594,14 +598,6 @@ public final class BitBlocks {
             bits.put(kind, KIND_BITS);
             if (kind != ROW) {
                 bits.putChunks(number, OP_WIDTH_CHUNK);
-            }
-        }
-
-        private void putRecord(Form form) {
-            if (form == null) {
-                putPlain();
-            } else {
-                putByForm(form);
             }
         }
 
@@ -883,8 +879,7 @@ public final class BitBlocks {
                 if (part != 0 && shift > 30) {
                     throw new IllegalArgumentException("a number is too large");
                 }
-                // Zeros may stand behind any number of chunks, where no shift reaches.
-                number |= part == 0 ? 0 : part << shift;
+                number |= part << shift;
                 if (number > Integer.MAX_VALUE) {
                     throw new IllegalArgumentException("a number is too large");
                 }

@@ -522,6 +522,39 @@ public final class WriterTest {
         Check.due("8: another code", x.record(0, 5), -3);
         x.value(MAX);
         Check.due("8: a value too many", x.record(MAX, 5), -3);
+        promise8ChunksOfAllWidths();
+        promise8DeepForms();
+    }
+
+    private static void promise8ChunksOfAllWidths() {
+        for (int w = 2; w <= 31; w++) {
+            BitBlocks x = new BitBlocks();
+            x.enter(1, 3);
+            x.op(CHUNKED, w);
+            x.form();
+            String form = "10 100000 1100 / #0 110 10000 0 010 " + Check.chunks(w, 5);
+            int[] codes = {MAX, 0, (1 << w - 1) - 1, 1 << w - 1};
+            for (int code : codes) {
+                String bits = "001" + Check.chunks(code, w);
+                Check.due("8: " + code + " in chunks of " + w, x.record(code, 4), bits.length());
+                form += bits;
+                Check.streamDue("8: in chunks of " + w, x, form);
+            }
+        }
+    }
+
+    private static void promise8DeepForms() {
+        BitBlocks x = new BitBlocks();
+        for (int depth = 1; depth <= 6; depth++) {
+            x.enter(1, 3);
+            x.op(FIXED, depth);
+            Check.due("8: a form at depth " + depth, x.form(), 4);
+        }
+        for (int depth = 6; depth >= 1; depth--) {
+            Check.due("8: fits at depth " + depth, x.record((1 << depth) - 1, 4), 3 + depth);
+            Check.due("8: does not fit at depth " + depth, x.record(1 << depth, 4), -3);
+            x.leave();
+        }
     }
 
     private static void promise8Rows() {
