@@ -734,7 +734,7 @@ public final class BitBlocks {
                 throw new IllegalArgumentException("no such id or width");
             }
             takeZeros();
-            int length = take(WORD_BITS);
+            int length = takeLength();
             nest.push(id, width, place / WORD_BITS, length);
             shown[0] = id;
             shown[1] = width;
@@ -866,6 +866,15 @@ public final class BitBlocks {
             }
             place += count;
             return count < WORD_BITS ? number & ((1 << count) - 1) : number;
+        }
+
+        /** A whole word has a bit more than a number may have. */
+        private int takeLength() {
+            int length = take(WORD_BITS);
+            if (length < 0) {
+                throw new IllegalArgumentException("a number is too large");
+            }
+            return length;
         }
 
         private int takeChunks(int width) {

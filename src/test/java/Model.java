@@ -414,6 +414,7 @@ final class Model {
         ask(id <= 63 && width >= 2 && width <= 8);
         zeros();
         long length = number(32);
+        ask(length <= Integer.MAX_VALUE);
         Open block = new Open(id, width, place, length);
         block.forms.addAll(keptFor(inKept, id));
         in.add(block);

@@ -25,6 +25,8 @@ public final class ReaderTest {
         promise18Ends();
         promise18BadBlocks();
         promise18BadLengths();
+        promise18LargeLengths();
+        promise18LargeNumbers();
         promise18BadForms();
         promise18BadRecords();
         promise18BadInfo();
@@ -365,7 +367,7 @@ public final class ReaderTest {
     }
 
     private static void promise18BadLengths() {
-        for (int length : new int[] {0, 2, 3, -1, MIN, MAX, 257}) {
+        for (int length : new int[] {0, 2, 3, MAX - 1, MAX, 257}) {
             BitBlocks x = Check.loaded("10 100000 0100 / #" + length + " 00 / #0 #0");
             Check.nextDue("18: the length is seen at LEAVE", x, 1);
             Check.infoDue("18: length " + length, x, 1, 2, length);
@@ -378,6 +380,84 @@ public final class ReaderTest {
         bad("18: an outer length", outer + "3 10 100000 0100 / #1 00 / 00 /", 1, 1, 2, BAD);
         bad("18: both are right", outer + "4 10 100000 0100 / #1 00 / 00 /", 1, 1, 2, 2, 0);
         bad("18: the second block", EMPTY + "10 100000 0100 / #4 00 /", 1, 2, 1, BAD);
+    }
+
+    /** A length that is no number is seen at ENTER, a wrong one only at LEAVE. */
+    private static void promise18LargeLengths() {
+        for (int length : new int[] {MIN, MIN + 1, MIN + 4, -2, -1}) {
+            String large = "/ #" + length + " ";
+            bad("18: length " + length, "10 101000 0010 " + large + "0000 /", BAD);
+            bad("18: no word behind length " + length, "10 101000 0010 " + large, BAD);
+            bad("18: INFO of length " + length, "10 000000 0100 " + large + "00 /", BAD);
+            BitBlocks x = Check.loaded("10 010000 1100 / #4 010 110000 100000 111000 "
+                    + "100 100000 0100 " + large + "00 / 000 /");
+            Check.infoDue("18: none yet", x);
+            Check.nextDue("18: an inner length " + length, x, 1, 4, BAD, STATE, STATE);
+            Check.due("18: level", x.level(), 1);
+            Check.infoDue("18: still the record", x, 3, 2, 1, 7);
+            x.rewind();
+            Check.nextDue("18: rewound", x, 1, 4, BAD, STATE);
+            // The record and the inner ENTER lie in words 2 and 3, the length in word 4.
+            x.alter(4, 1);
+            Check.nextDue("18: the length is altered", x, 1, 4, 1, 2, BAD);
+            x.alter(1, 5);
+            Check.nextDue("18: both lengths are right", x, 1, 4, 1, 2, 2, 0);
+        }
+    }
+
+    /** Each place where chunks are read, with a number that may stand there and with larger ones. */
+    private static void promise18LargeNumbers() {
+        String form = BLOCK + "110 ";
+        String record = BLOCK + "010 ";
+        large("an id", "10 ", 1, 6, " 1100 / #1 000 /", 1);
+        large("a width", "10 100000 ", 3, 4, " / #1 000 /", 1);
+        large("an inner id", BLOCK + "100 ", 1, 6, " 1100 / #1 000 /", 1, 1);
+        large("an inner width", BLOCK + "100 100000 ", 3, 4, " / #1 000 /", 1, 1);
+        large("a code", record, 1, 6, " 000000", 1, 4);
+        large("a number of values", record + "100000 ", 1, 6, " 100000", 1, 4);
+        large("no values", record + "100000 ", 0, 6, "", 1, 4);
+        large("a value", record + "100000 100000 ", 1, 6, "", 1, 4);
+        large("the last value", record + "100000 010000 100000 ", 0, 6, "", 1, 4);
+        large("a number of ops", form, 1, 5, " 1 00000000", 1, 3);
+        large("a literal", form + "10000 1 ", 0, 8, "", 1, 3);
+        large("the w of FIXED", form + "10000 0 100 ", 4, 5, "", 1, 3);
+        large("the w of CHUNKED", form + "10000 0 010 ", 4, 5, "", 1, 3);
+        large("the w behind a ROW", form + "01000 0 110 0 010 ", 4, 5, "", 1, 3);
+        large("how many in a ROW", form + "01000 0 110 0 100 10000 001 ", 1, 6, " 1", 1, 3, 4);
+        large("none in a ROW", form + "11000 1 00000000 0 110 0 100 10000 001 ", 0, 6, "", 1, 3, 4);
+        for (int w = 2; w <= 31; w++) {
+            String op = "0 010 " + Check.chunks(w, 5);
+            large("a code in chunks of " + w, form + "10000 " + op + "001 ", 1, w, "", 1, 3, 4);
+            large("a value in chunks of " + w, form + "01000 " + op + op + "001 "
+                    + Check.chunks(0, w), 1, w, "", 1, 3, 4);
+            large("chunks of " + w + " in a ROW", form + "01000 0 110 " + op + "001 010000 "
+                    + Check.chunks(1, w), 1, w, "", 1, 3, 4);
+        }
+        large("a code in INFO", INFO + "010 ", 1, 6, " 100000 100000", 1, 4);
+        large("a number of values in INFO", INFO + "010 100000 ", 1, 6, " 100000", 1, 4);
+        large("a target", INFO + "010 100000 100000 ", 1, 6, "", 1, 4);
+        String target = INFO + "010 100000 100000 100000 110 ";
+        large("a number of ops in INFO", target, 1, 5, " 1 00000000", 1, 4, 3);
+        large("a literal in INFO", target + "10000 1 ", 1, 8, "", 1, 4, 3);
+        large("a w in INFO", target + "10000 0 010 ", 4, 5, "", 1, 4, 3);
+    }
+
+    /**
+     * With the right number in chunks of w between the bits the answers are these; with one that is
+     * larger by 2^31 or more, and so the same in its lowest bits, the last of them is a fault.
+     */
+    private static void large(String what, String before, int right, int w, String behind,
+            long... answers) {
+        String rest = behind + " / #0 #0 #0 #0";
+        bad("18: right: " + what, before + Check.chunks(right, w) + rest, answers);
+        long[] faulty = answers.clone();
+        faulty[faulty.length - 1] = BAD;
+        for (int high = 31; high <= 62; high++) {
+            long number = (1L << high) + right;
+            bad("18: " + number + ": " + what, before + Check.chunks(number, w) + rest, faulty);
+        }
+        long most = ((1L << 31) - 1 << 31) + right;
+        bad("18: " + most + ": " + what, before + Check.chunks(most, w) + rest, faulty);
     }
 
     private static void promise18BadForms() {
