@@ -7,6 +7,7 @@ public final class BitBlocks {
     private static final int STREAM_WORDS = 64;
     private static final int WORD_BITS = 32;
     private static final int STREAM_BITS = STREAM_WORDS * WORD_BITS;
+    private static final int MAX_NUMBER = 2147483647;
 
     private static final int MAX_DEPTH = 6;
     private static final int IDS = 64;
@@ -889,7 +890,7 @@ public final class BitBlocks {
                     throw new IllegalArgumentException("a number is too large");
                 }
                 number |= part << shift;
-                if (number > Integer.MAX_VALUE) {
+                if (number > MAX_NUMBER) {
                     throw new IllegalArgumentException("a number is too large");
                 }
                 if (chunk >>> low == 0) {

@@ -22,6 +22,14 @@ final class Check {
         due(what, got ? 1 : 0, want ? 1 : 0);
     }
 
+    static void due(String what, String got, String want) {
+        calls++;
+        if (!got.equals(want)) {
+            wrong++;
+            System.out.println(what + " answered " + got + ", due is " + want);
+        }
+    }
+
     static boolean isAllRight() {
         return wrong == 0;
     }
@@ -66,11 +74,22 @@ final class Check {
         due(what + ": the word behind the last", x.word(want.length), 0);
     }
 
+    /** Words from bits as bits(String) takes them, with zeros up to the last word's end. */
+    static int[] words(String text) {
+        StringBuilder bits = new StringBuilder(bits(text));
+        fill(bits);
+        int[] words = new int[bits.length() / 32];
+        for (int k = 0; k < bits.length(); k++) {
+            words[k / 32] |= (bits.charAt(k) - '0') << (k % 32);
+        }
+        return words;
+    }
+
     /**
-     * Words from bits in the order of the stream. Blanks are not looked at; a '/' stands for zeros
+     * Bits in the order of the stream, written out. Blanks are not looked at; a '/' stands for zeros
      * up to the next word; '#n' (to a blank or the end) for a whole word with the number n.
      */
-    static int[] words(String text) {
+    static String bits(String text) {
         StringBuilder bits = new StringBuilder();
         int i = 0;
         while (i < text.length()) {
@@ -88,12 +107,7 @@ final class Check {
                 throw new IllegalArgumentException("no bit: " + c);
             }
         }
-        fill(bits);
-        int[] words = new int[bits.length() / 32];
-        for (int k = 0; k < bits.length(); k++) {
-            words[k / 32] |= (bits.charAt(k) - '0') << (k % 32);
-        }
-        return words;
+        return bits.toString();
     }
 
     private static void fill(StringBuilder bits) {
@@ -130,6 +144,24 @@ final class Check {
             due("load", x.load(words[i]), i + 1);
         }
         return x;
+    }
+
+    /** Reads these bits; where the last answer is a fault, it must stay, and leave the level. */
+    static void readDue(String what, String bits, long... want) {
+        BitBlocks x = loaded(bits);
+        nextDue(what, x, want);
+        if (want[want.length - 1] == ARGUMENT) {
+            nextDue(what + ", from then on", x, STATE, STATE);
+            due(what + ", the level", x.level(), levelAfter(want));
+        }
+    }
+
+    private static int levelAfter(long[] answers) {
+        int level = 0;
+        for (long answer : answers) {
+            level += answer == 1 ? 1 : answer == 2 ? -1 : 0;
+        }
+        return level;
     }
 
     static void end() {

@@ -5,17 +5,19 @@ import java.util.Random;
  * but what the document says.
  */
 public final class RandomTest {
-    private static final int RUNS = 1200;
-    private static final int CALLS = 300;
-    private static final int[] ODD = {Integer.MIN_VALUE, -5, -1, 0, 1, 2, 3, 4, 8, 9, 31, 32, 63, 64,
-        255, 1 << 30, Integer.MAX_VALUE};
+    private static final int RUNS = 12000;
+    // An object is used for at most so many calls.
+    private static final int CALLS = 512;
+    private static final int[] ODD = {Integer.MIN_VALUE, -5, -1, 0, 1, 2, 3, 4, 8, 9, 31, 32, 63,
+        64, 255, 1 << 30, Integer.MAX_VALUE};
+    // How the numbers of answers came about: a test of the test.
+    private static final long[] SEEN = new long[64];
 
     private final Random random;
     private final int run;
     private final BitBlocks x = new BitBlocks();
     private final Model model = new Model();
-    // How the numbers of answers came about: a test of the test.
-    private static final long[] SEEN = new long[64];
+    private int left = CALLS;
 
     private RandomTest(int run) {
         this.run = run;
@@ -30,17 +32,29 @@ public final class RandomTest {
         Check.end();
     }
 
+    /** Whether a call is left; if so, it is taken. */
+    private boolean mayCall() {
+        left--;
+        return left >= 0;
+    }
+
+    private boolean goesOn() {
+        return left > 0 && Check.isAllRight();
+    }
+
     private void go() {
         int wildness = run % 4;
-        for (int i = 0; i < CALLS && Check.isAllRight(); i++) {
+        // Some runs read only what they have written up to the end of the stream.
+        int reads = run / 12 % 3 == 0 ? 90 : 20;
+        while (goesOn()) {
             if (random.nextInt(100) < wildness) {
                 wildCall();
-            } else if (random.nextInt(20) == 0) {
+            } else if (random.nextInt(reads) == 0) {
                 readAll();
             } else {
                 writerCall(run / 4 % 3);
             }
-            looks();
+            look();
         }
     }
 
@@ -64,63 +78,127 @@ public final class RandomTest {
     }
 
     private void enter(int id, int width) {
-        due("enter(" + id + ", " + width + ")", x.enter(id, width), model.enter(id, width), 0);
+        if (mayCall()) {
+            due("enter(" + id + ", " + width + ")", x.enter(id, width), model.enter(id, width), 0);
+        }
     }
 
     private void leave() {
-        due("leave()", x.leave(), model.leave(), 6);
+        if (mayCall()) {
+            due("leave()", x.leave(), model.leave(), 6);
+        }
     }
 
     private void op(int kind, int v) {
-        due("op(" + kind + ", " + v + ")", x.op(kind, v), model.op(kind, v), 12);
+        if (mayCall()) {
+            due("op(" + kind + ", " + v + ")", x.op(kind, v), model.op(kind, v), 12);
+        }
     }
 
     private void value(int v) {
-        due("value(" + v + ")", x.value(v), model.value(v), 18);
+        if (mayCall()) {
+            due("value(" + v + ")", x.value(v), model.value(v), 18);
+        }
     }
 
     private void form() {
-        due("form()", x.form(), model.form(), 24);
+        if (mayCall()) {
+            due("form()", x.form(), model.form(), 24);
+        }
     }
 
     private void record(int code, int form) {
-        due("record(" + code + ", " + form + ")", x.record(code, form), model.record(code, form), 30);
+        if (mayCall()) {
+            due("record(" + code + ", " + form + ")", x.record(code, form),
+                    model.record(code, form), 30);
+        }
     }
 
     private void copy() {
-        due("copy()", x.copy(), model.copy(), 36);
+        if (mayCall()) {
+            due("copy()", x.copy(), model.copy(), 36);
+        }
     }
 
     private void load(int word) {
-        due("load(" + word + ")", x.load(word), model.load(word), 42);
+        if (mayCall()) {
+            due("load(" + word + ")", x.load(word), model.load(word), 42);
+        }
     }
 
     private void alter(int i, int word) {
-        boolean want = model.alter(i, word);
-        due("alter(" + i + ", " + word + ")", x.alter(i, word) ? 1 : 0, want ? 1 : 0, -1);
+        if (mayCall()) {
+            due("alter(" + i + ", " + word + ")", x.alter(i, word) ? 1 : 0,
+                    model.alter(i, word) ? 1 : 0, -1);
+        }
+    }
+
+    private void wipe() {
+        if (mayCall()) {
+            due("wipe()", x.wipe(), model.wipe(), -1);
+        }
     }
 
     private void drop() {
-        x.drop();
-        model.drop();
+        if (mayCall()) {
+            x.drop();
+            model.drop();
+        }
+    }
+
+    private void clear() {
+        if (mayCall()) {
+            x.clear();
+            model.clear();
+        }
+    }
+
+    private void rewind() {
+        if (mayCall()) {
+            x.rewind();
+            model.rewind();
+        }
+    }
+
+    private void word(int i) {
+        if (mayCall()) {
+            due("word(" + i + ")", x.word(i), model.word(i), -1);
+        }
+    }
+
+    private void info(int i) {
+        if (mayCall()) {
+            due("info(" + i + ")", x.info(i), model.info(i), -1);
+        }
     }
 
     /** What next() answered. */
     private long next() {
+        if (!mayCall()) {
+            return 0;
+        }
         long want = model.next();
         due("next()", Check.next(x), want, -1);
         SEEN[48 + (want == Check.ARGUMENT ? 5 : want == Check.STATE ? 6 : (int) want)]++;
         return want;
     }
 
-    private void looks() {
-        due("words()", x.words(), model.words(), -1);
-        due("depth()", x.depth(), model.depth(), -1);
-        due("level()", x.level(), model.level(), -1);
-        int i = small(68) - 2;
-        due("word(" + i + ")", x.word(i), model.word(i), -1);
-        i = small(24) - 2;
-        due("info(" + i + ")", x.info(i), model.info(i), -1);
+    /** Looks at one thing, so that most calls are left for others. */
+    private void look() {
+        int choice = small(5);
+        if (choice == 0) {
+            word(small(68) - 2);
+        } else if (choice == 1) {
+            info(small(24) - 2);
+        } else if (mayCall()) {
+            if (choice == 2) {
+                due("words()", x.words(), model.words(), -1);
+            } else if (choice == 3) {
+                due("depth()", x.depth(), model.depth(), -1);
+            } else {
+                due("level()", x.level(), model.level(), -1);
+            }
+        }
     }
 
     private void writerCall(int style) {
@@ -138,8 +216,7 @@ public final class RandomTest {
         } else if (choice == 18) {
             target();
         } else if (choice == 19 && small(20) == 0) {
-            x.clear();
-            model.clear();
+            clear();
         } else if (choice > 25) {
             record(small(3), 2);
         }
@@ -211,20 +288,17 @@ public final class RandomTest {
                 load(random.nextInt());
                 break;
             case 6:
-                for (int i : ODD) {
-                    due("word(" + i + ")", x.word(i), model.word(i), -1);
-                    due("info(" + i + ")", x.info(i), model.info(i), -1);
-                }
+                word(odd());
+                info(odd());
                 break;
             case 7:
-                due("wipe()", x.wipe(), model.wipe(), -1);
+                wipe();
                 break;
             case 8:
                 fullLoad();
                 break;
             case 9:
-                x.rewind();
-                model.rewind();
+                rewind();
                 break;
             case 10:
                 copy();
@@ -248,21 +322,21 @@ public final class RandomTest {
             }
         }
         copy();
-        for (int turn = 0; turn < 12 && Check.isAllRight(); turn++) {
-            readOn(turn == 0 ? 400 : 150);
+        for (int turn = small(6); turn < 6 && goesOn(); turn++) {
+            readOn();
             alterSomething();
         }
+        readOn();
         if (small(2) == 0) {
-            x.clear();
-            model.clear();
+            clear();
         }
     }
 
-    private void readOn(int most) {
-        for (int i = 0; i < most && Check.isAllRight(); i++) {
+    private void readOn() {
+        while (goesOn()) {
             long answer = next();
-            looks();
-            due("info(0)", x.info(0), model.info(0), -1);
+            look();
+            info(small(4));
             if (answer == 0 || answer == Check.STATE) {
                 return;
             }
@@ -297,7 +371,7 @@ public final class RandomTest {
         for (int i = 0; i < words.length; i++) {
             words[i] = model.streamWord(i);
         }
-        due("wipe()", x.wipe(), model.wipe(), -1);
+        wipe();
         for (int word : words) {
             load(word);
         }

@@ -301,20 +301,7 @@ public final class ReaderTest {
     }
 
     private static void bad(String what, String bits, long... want) {
-        BitBlocks x = Check.loaded(bits);
-        Check.nextDue(what, x, want);
-        if (want[want.length - 1] == BAD) {
-            Check.nextDue(what + ", from then on", x, STATE, STATE);
-            Check.due(what + ", the level", x.level(), levelAfter(want));
-        }
-    }
-
-    private static int levelAfter(long[] answers) {
-        int level = 0;
-        for (long answer : answers) {
-            level += answer == 1 ? 1 : answer == 2 ? -1 : 0;
-        }
-        return level;
+        Check.readDue(what, bits, want);
     }
 
     private static void promise18Ends() {

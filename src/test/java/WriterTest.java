@@ -95,13 +95,13 @@ public final class WriterTest {
         Check.due("2: the head comes before INFO", info.enter(1, 1), -1);
         Check.streamDue("2: nothing is written", info, "10 000000 0100 / #0");
 
-        BitBlocks full = wordsLong(61);
+        BitBlocks full = Made.ofWords(61);
         Check.due("2: INFO up to the end", full.enter(0, 2), 0);
         Check.due("2: INFO comes before the room", full.enter(1, 2), -3);
     }
 
     private static void promise2Room() {
-        BitBlocks last = wordsLong(61);
+        BitBlocks last = Made.ofWords(61);
         Check.due("2: just room enough", last.enter(1, 2), 0);
         Check.due("2: no room inside", last.enter(1, 2), -4);
         Check.due("2: words", last.words(), 63);
@@ -109,14 +109,14 @@ public final class WriterTest {
         Check.due("2: words at the end", last.words(), 64);
         Check.due("2: the stream is full", last.enter(1, 2), -4);
 
-        BitBlocks over = wordsLong(62);
+        BitBlocks over = Made.ofWords(62);
         Check.due("2: a word too few", over.enter(1, 2), -4);
         Check.due("2: words", over.words(), 62);
         Check.due("2: nothing is written", over.word(62), 0);
         Check.due("2: depth", over.depth(), 0);
 
         // Each of three nested blocks takes two words, and one word for its LEAVE.
-        BitBlocks nested = wordsLong(55);
+        BitBlocks nested = Made.ofWords(55);
         for (int i = 0; i < 3; i++) {
             Check.due("2: nested", nested.enter(1, 2), 0);
         }
@@ -127,7 +127,7 @@ public final class WriterTest {
         Check.due("2: words of three", nested.words(), 64);
 
         // What stands before it in its word makes the ENTER one word longer: 25 + 3 + 6 + 4 bits.
-        BitBlocks split = wordsLong(58);
+        BitBlocks split = Made.ofWords(58);
         split.enter(1, 3);
         split.op(FIXED, 1);
         split.form();
@@ -139,7 +139,7 @@ public final class WriterTest {
         Check.due("2: none of it is left", split.word(61), 0);
         Check.due("2: leave", split.leave(), 1);
 
-        BitBlocks whole = wordsLong(58);
+        BitBlocks whole = Made.ofWords(58);
         whole.enter(1, 3);
         whole.op(FIXED, 1);
         whole.form();
@@ -147,26 +147,6 @@ public final class WriterTest {
         Check.due("2: leave", whole.leave(), 1);
         Check.due("2: leave", whole.leave(), 4);
         Check.due("2: words", whole.words(), 64);
-    }
-
-    /** An object at depth 0 whose writer has n words, 52 to 63 of them. */
-    private static BitBlocks wordsLong(int n) {
-        BitBlocks x = new BitBlocks();
-        x.enter(1, 2);
-        for (int i = 0; i < 16; i++) {
-            x.value(MAX);
-        }
-        x.record(0, 2);
-        for (int i = 0; i < 16; i++) {
-            x.value(MAX);
-        }
-        x.record(0, 2);
-        for (int i = 0; i < 200 && x.words() < n; i++) {
-            x.record(0, 2);
-        }
-        x.leave();
-        Check.due("a stream of n words", x.words(), n);
-        return x;
     }
 
     private static void promise3() {
@@ -322,7 +302,8 @@ public final class WriterTest {
         BitBlocks x = new BitBlocks();
         x.enter(1, 4);
         for (int[] ops : none) {
-            Check.due("7: no form", x.form(), prepare(x, ops) ? -2 : 0);
+            prepare(x, ops);
+            Check.due("7: no form", x.form(), -2);
             x.drop();
         }
         for (int i = 0; i < forms.length; i++) {
@@ -331,19 +312,16 @@ public final class WriterTest {
         }
     }
 
-    private static boolean prepare(BitBlocks x, int[] kinds) {
+    private static void prepare(BitBlocks x, int[] kinds) {
         for (int i = 0; i < kinds.length; i++) {
-            if (x.op(kinds[i], 2) != i + 1) {
-                return false;
-            }
+            Check.due("7: op", x.op(kinds[i], 2), i + 1);
         }
-        return true;
     }
 
     private static void promise7Room() {
         // A form of one FIXED op takes 3 + 5 + 9 bits, and LEAVE 3 more.
         for (int spare = 16; spare <= 18; spare++) {
-            BitBlocks x = blockWithSpare(spare);
+            BitBlocks x = Made.withSpare(1, 3, spare);
             int last = x.word(63);
             x.op(FIXED, 7);
             Check.due("7: spare bits " + spare, x.form(), spare < 17 ? -5 : 6);
@@ -355,34 +333,6 @@ public final class WriterTest {
             x.leave();
             Check.due("7: words", x.words(), 64);
         }
-    }
-
-    /**
-     * An object in a block of width 3 with the forms FIXED 1 and FIXED 2, and so many bits before
-     * the stream would be too long.
-     */
-    private static BitBlocks blockWithSpare(int spare) {
-        BitBlocks x = new BitBlocks();
-        x.enter(1, 3);
-        x.op(FIXED, 1);
-        x.form();
-        x.op(FIXED, 2);
-        x.form();
-        int left = 2048 - 64 - 34 - 3 - spare;
-        for (int turn = 0; turn < 2; turn++) {
-            for (int i = 0; i < 16; i++) {
-                x.value(MAX);
-            }
-            left -= x.record(0, 2);
-        }
-        for (int turn = 0; turn < 5 && left % 5 != 0; turn++) {
-            left -= x.record(1, 4);
-        }
-        for (int turn = 0; turn < 200 && left > 0; turn++) {
-            left -= x.record(3, 5);
-        }
-        Check.due("just so many bits", left, 0);
-        return x;
     }
 
     private static void promise7Info() {
@@ -621,7 +571,7 @@ public final class WriterTest {
 
     private static void promise8Room() {
         for (int spare = 3; spare <= 5; spare++) {
-            BitBlocks x = blockWithSpare(spare);
+            BitBlocks x = Made.withSpare(1, 3, spare);
             int last = x.word(63);
             Check.due("8: does not fit", x.record(4, 5), -3);
             Check.due("8: 5 bits of " + spare, x.record(3, 5), spare < 5 ? -5 : 5);
@@ -639,7 +589,7 @@ public final class WriterTest {
 
     private static void promise8RoomOfOuterBlocks() {
         // Three blocks of width 2 take 6 words; 3 more words are needed to leave them.
-        BitBlocks x = wordsLong(54);
+        BitBlocks x = Made.ofWords(54);
         for (int i = 0; i < 3; i++) {
             x.enter(1, 2);
         }
@@ -704,7 +654,7 @@ public final class WriterTest {
         for (int i : none) {
             Check.due("10: word " + i, x.word(i), 0);
         }
-        BitBlocks full = wordsLong(61);
+        BitBlocks full = Made.ofWords(61);
         full.enter(1, 2);
         full.leave();
         Check.due("9: full", full.words(), 64);
@@ -783,7 +733,7 @@ public final class WriterTest {
         x.op(FIXED, 5);
         Check.due("12: no target", x.form(), -3);
         x.clear();
-        BitBlocks full = wordsLong(61);
+        BitBlocks full = Made.ofWords(61);
         full.clear();
         Check.due("12: room again", full.enter(1, 2), 0);
         full.leave();
