@@ -28,6 +28,7 @@ public final class CarryEdgesTest {
         eachRewinds();
         refusedDoNotRewind();
         writerDoesNotRewind();
+        readerLeavesTheWriter();
         rewoundKeepsNothing();
         Check.end();
     }
@@ -415,6 +416,50 @@ public final class CarryEdgesTest {
         Check.nextDue("the writer is used: the fault stays", x, STATE);
         Check.due("the writer is used: level", x.level(), 1);
         Check.due("the writer is used: the reader's words", x.wipe(), 7);
+    }
+
+    /** The reader's calls leave the writer as it is, with all that is prepared and kept. */
+    private static void readerLeavesTheWriter() {
+        for (int depth = 0; depth <= 6; depth++) {
+            int open = depth;
+            Twins.unchanged("13 to 20: the writer at depth " + open, x -> {
+                x.enter(0, 2);
+                x.value(1);
+                x.record(1, 2);
+                x.op(FIXED, 1);
+                x.form();
+                x.leave();
+                for (int i = 0; i < open; i++) {
+                    x.enter(1, 3);
+                }
+                x.op(FIXED, 2);
+                x.value(3);
+            }, 0, CarryEdgesTest::useReader);
+        }
+        Twins.unchanged("13 to 20: the writer in INFO", x -> {
+            x.enter(0, 2);
+            x.value(1);
+            x.record(1, 2);
+            x.op(FIXED, 2);
+        }, 0, CarryEdgesTest::useReader);
+    }
+
+    /** The reader's stream is empty before and behind it. */
+    private static long useReader(BitBlocks x) {
+        x.copy();
+        for (int i = 0; i < 9; i++) {
+            Check.next(x);
+        }
+        x.wipe();
+        for (int word : Check.words(EMPTY)) {
+            x.load(word);
+        }
+        Check.nextDue("the reader is used", x, 1, 2, 0);
+        x.alter(0, 0);
+        Check.nextDue("the reader is used", x, BAD, STATE);
+        x.rewind();
+        Check.due("the reader is used", x.wipe(), 3);
+        return x.info(0) + 1 + x.level();
     }
 
     private static void useWriter(BitBlocks x) {

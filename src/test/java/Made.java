@@ -1,4 +1,7 @@
-/** Objects that tests begin with: streams of a certain length, and blocks with just so much room. */
+/**
+ * Objects that tests begin with: streams of a certain length, and blocks with just so much room.
+ * Each loop has a bound, so that a wrong answer ends in a failed test and not in a long one.
+ */
 final class Made {
     private static final int FIXED = 1;
     private static final int MAX = Integer.MAX_VALUE;
@@ -11,7 +14,7 @@ final class Made {
     static BitBlocks ofWords(int n) {
         BitBlocks x = new BitBlocks();
         x.enter(1, 2);
-        while (n - x.words() > 22) {
+        for (int i = 0; i < 3 && n - x.words() > 22; i++) {
             longRecord(x);
         }
         for (int i = 0; i < 60 && x.words() < n; i++) {
@@ -79,7 +82,7 @@ final class Made {
     /** Writes just so many bits of records, 76 or more, into a block made by nested(). */
     private static void fill(BitBlocks x, int width, int bits) {
         int left = bits;
-        while (left > 800) {
+        for (int i = 0; i < 3 && left > 800; i++) {
             left -= longRecord(x);
         }
         left -= width > 2 ? fillByForms(x, width, left) : fillByPlain(x, left);
@@ -88,7 +91,7 @@ final class Made {
 
     private static int fillByForms(BitBlocks x, int width, int bits) {
         int done = 0;
-        while (bits - done > 150) {
+        for (int i = 0; i < 20 && bits - done > 150; i++) {
             done += x.record(MAX, 2);
         }
         int odd = (bits - done) % (width + 1);

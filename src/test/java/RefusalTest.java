@@ -333,7 +333,7 @@ public final class RefusalTest {
 
     private static void fillUp(BitBlocks x) {
         int words = 0;
-        while (words < 64) {
+        for (int i = 0; i < 64 && words < 64; i++) {
             words = x.load(0);
         }
     }
