@@ -38,9 +38,14 @@ public final class FaceTest {
         }
         Set<String> want = new TreeSet<>(Arrays.asList(FACE));
         Check.due("the methods " + seen + " are " + want, seen.equals(want), true);
+        for (Class<?> inside : BitBlocks.class.getDeclaredClasses()) {
+            for (Method method : inside.getDeclaredMethods()) {
+                hidden.add(method.getName());
+            }
+        }
         for (String line : FACE) {
             String name = line.substring(line.indexOf(' ') + 1, line.indexOf('('));
-            Check.due("a private method is named " + name, hidden.contains(name), false);
+            Check.due("a method inside is named " + name, hidden.contains(name), false);
         }
     }
 
